@@ -682,25 +682,33 @@ public final class LeafTable {
             trialFrom(now).served = served;
             mostServed = -1;
             firstPasses = 0;
-            tryPasses(0, 0, present);
+            tryPasses(this, 0, 0, present);
+        }
+
+        private static void tryPasses(Plans plans, int depth, int row, int left) {
+            if (depth < 0 || depth > DEEPEST) {
+                return;
+            }
+            Seats seats = plans.trials[depth];
+            plans.takePasses(Integer.bitCount(seats.served), row);
+            if (depth == DEEPEST) {
+                return;
+            }
+            Seats next = plans.trials[depth + 1];
+            for (int i = 0; i < plans.table.number; i++) {
+                if ((left >> i & 1) == 1) {
+                    next.become(seats);
+                    plans.table.hand(next, i);
+                    tryPasses(plans, depth + 1, row * 10 + i + 1, left & ~(1 << i));
+                }
+            }
         }
 
         /** No figure is 0, so the shorter of two rows is the lesser number, too. */
-        private void tryPasses(int depth, int row, int left) {
-            int count = Integer.bitCount(trials[depth].served);
+        private void takePasses(int count, int row) {
             if (count > mostServed || count == mostServed && row < firstPasses) {
                 mostServed = count;
                 firstPasses = row;
-            }
-            if (depth >= DEEPEST) {
-                return;
-            }
-            for (int i = 0; i < table.number; i++) {
-                if ((left >> i & 1) == 1) {
-                    trials[depth + 1].become(trials[depth]);
-                    table.hand(trials[depth + 1], i);
-                    tryPasses(depth + 1, row * 10 + i + 1, left & ~(1 << i));
-                }
             }
         }
 
@@ -708,7 +716,7 @@ public final class LeafTable {
         int fewestSayings(Seats now, int goal) {
             trialFrom(now);
             for (int sayings = 0; sayings <= MOST_SAYINGS; sayings++) {
-                int row = trySayings(0, sayings, 0, goal);
+                int row = trySayings(this, 0, sayings, 0, goal);
                 if (row != NONE) {
                     return row;
                 }
@@ -716,14 +724,19 @@ public final class LeafTable {
             return NONE;
         }
 
-        private int trySayings(int depth, int sayings, int row, int goal) {
-            if (depth >= sayings || depth >= DEEPEST) {
-                return isReached(trials[depth], goal) ? row : NONE;
+        private static int trySayings(Plans plans, int depth, int sayings, int row, int goal) {
+            if (depth < 0 || depth > DEEPEST) {
+                return NONE;
             }
-            for (int i = 0; i < table.number; i++) {
-                trials[depth + 1].become(trials[depth]);
-                if (table.speakIfCan(trials[depth + 1], i)) {
-                    int found = trySayings(depth + 1, sayings, row * 10 + i + 1, goal);
+            Seats seats = plans.trials[depth];
+            if (depth >= sayings || depth == DEEPEST) {
+                return plans.isReached(seats, goal) ? row : NONE;
+            }
+            Seats next = plans.trials[depth + 1];
+            for (int i = 0; i < plans.table.number; i++) {
+                next.become(seats);
+                if (plans.table.speakIfCan(next, i)) {
+                    int found = trySayings(plans, depth + 1, sayings, row * 10 + i + 1, goal);
                     if (found != NONE) {
                         return found;
                     }
@@ -766,22 +779,27 @@ public final class LeafTable {
         int lengthByTurns(Seats now, int turns) {
             trialFrom(now);
             opening = 0;
-            return tryTurn(0, turns);
+            return tryTurn(this, 0, turns);
         }
 
-        private int tryTurn(int depth, int turns) {
-            if (depth >= turns || depth >= DEEPEST) {
-                return trials[depth].length;
+        private static int tryTurn(Plans plans, int depth, int turns) {
+            if (depth < 0 || depth > DEEPEST) {
+                return NONE;
             }
+            Seats seats = plans.trials[depth];
+            if (depth >= turns || depth == DEEPEST) {
+                return seats.length;
+            }
+            Seats next = plans.trials[depth + 1];
             boolean wantsLong = depth % 2 == 0;
             int best = NONE;
-            for (int speaker = 0; speaker <= table.number; speaker++) {
-                trials[depth + 1].become(trials[depth]);
-                if (speaker == 0 || table.speakIfCan(trials[depth + 1], speaker - 1)) {
-                    int length = tryTurn(depth + 1, turns);
+            for (int speaker = 0; speaker <= plans.table.number; speaker++) {
+                next.become(seats);
+                if (speaker == 0 || plans.table.speakIfCan(next, speaker - 1)) {
+                    int length = tryTurn(plans, depth + 1, turns);
                     if (best == NONE || (wantsLong ? length > best : length < best)) {
                         best = length;
-                        opening = depth == 0 ? speaker : opening;
+                        plans.opening = depth == 0 ? speaker : plans.opening;
                     }
                 }
             }

@@ -40,6 +40,11 @@ public final class ActsTest {
         CHECK.due("LENGTH stays", table.count(2), 4);
         CHECK.due("BUSY says", table.say(1), 5);
         CHECK.leaves("behind BUSY", table, 1, 2, 4);
+        LeafTable behind = Check.laid("T0599G02000G01100");
+        CHECK.due("the first one told sits behind", behind.say(1), LeafTable.STATE);
+        LeafTable silent = Check.laid("T0299G01300G00300");
+        CHECK.due("SILENT on the last leaf", silent.say(0), 2);
+        CHECK.due("SILENT with one behind", silent.say(1), 2);
         LeafTable alone = Check.laid("T0211G00100");
         CHECK.due("to one leaf", alone.say(0), 1);
         CHECK.due("no leaf behind", alone.say(0), LeafTable.STATE);

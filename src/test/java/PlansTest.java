@@ -150,6 +150,7 @@ public final class PlansTest {
         judged(table, 1, 5, LeafTable.NONE);
         judged(table, 6, 555555, LeafTable.NONE);
         judged(table, 4, 6005, 2);
+        judged(Check.laid("T0491G01100"), 1, 5, LeafTable.NONE);
         LeafTable empty = new LeafTable();
         judged(empty, 6, 666666, LeafTable.NONE);
         judged(empty, 6, 666665, 5);

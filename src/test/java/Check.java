@@ -2,13 +2,23 @@
 final class Check {
     private int wrong;
     private int checked;
+    private String about = "";
 
     void due(String call, long got, long want) {
         checked++;
         if (got != want) {
             wrong++;
-            System.out.println(call + " answered " + got + ", due is " + want);
+            System.out.println(about + call + " answered " + got + ", due is " + want);
         }
+    }
+
+    /** What the next checks are about, told ahead of each that is wrong. */
+    void about(String words) {
+        about = words.isEmpty() ? "" : words + ": ";
+    }
+
+    int checked() {
+        return checked;
     }
 
     void end(String name) {

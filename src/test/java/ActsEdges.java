@@ -50,14 +50,9 @@ final class ActsEdges {
         check.due("say(" + guest + ")", table.say(guest), want);
     }
 
-    /** A table of so many leaves, made of 30 by FLATTERING (0) and BUSY (1); STAYING (2) and SILENT (3) sit behind. */
+    /** So many leaves; FLATTERING (0), BUSY (1), STAYING (2) sit on the first ones, SILENT (3) on the last one. */
     private static LeafTable longOf(int leaves) {
-        LeafTable table = Check.laid("T3091G00200G01000G02100G29300");
-        for (int length = 30; length < leaves; ) {
-            int guest = length + 2 <= leaves ? 0 : 1;
-            length = table.say(guest);
-        }
-        return table;
+        return Check.lengthened("T3091G00200G01000G02100G29300", leaves);
     }
 
     // ---- terms

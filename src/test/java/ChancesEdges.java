@@ -62,13 +62,9 @@ final class ChancesEdges {
         check.fraction("come(" + x + ", " + n + ")", table.come(x, n, true), table.come(x, n, false), above, below);
     }
 
-    /** 30 leaves and more: FLATTERING (0), BUSY (1), SILENT (2). */
+    /** So many leaves; FLATTERING (0), BUSY (1), SILENT (2). */
     private static LeafTable longOf(int leaves) {
-        LeafTable table = Check.laid("T3091G00200G01000G02300");
-        for (int length = 30; length < leaves; ) {
-            length = table.say(length + 2 <= leaves ? 0 : 1);
-        }
-        return table;
+        return Check.lengthened("T3091G00200G01000G02300", leaves);
     }
 
     // ---- hosts
@@ -354,23 +350,11 @@ final class ChancesEdges {
         check.due("THE SEED", five.seed(0), after(seed, 1).longValue());
     }
 
-    private static LeafTable someTable() {
-        LeafTable table = seeded("T1292G02021G03102G05033G08210G11123", 12345);
-        table.dine(1010, 3);
-        table.keep(1);
-        table.pass(0);
-        table.say(0);
-        table.keep(0);
-        table.say(3);
-        Check.write(table, "T1193G02000");
-        return table;
-    }
-
     private void onlyTheSeed() {
-        LeafTable like = someTable();
-        LeafTable dined = someTable();
+        LeafTable like = Dump.someTable();
+        LeafTable dined = Dump.someTable();
         check.due("LENGTH then is another", dined.dinner(30) == like.count(2) ? 1 : 0, 0);
-        check.due("THE SEED", dined.seed(12345), after(12345, 30).longValue());
+        check.due("THE SEED", dined.seed(Dump.SOME_SEED), after(Dump.SOME_SEED, 30).longValue());
         check.due("nothing else", Dump.of(dined).equals(Dump.of(like)) ? 1 : 0, 1);
     }
 

@@ -50,6 +50,17 @@ final class Check {
         return table;
     }
 
+    /** A table of 30 leaves, made so long by its guests 0 (FLATTERING) and 1 (BUSY). */
+    static LeafTable lengthened(String text, int leaves) {
+        LeafTable table = laid(text);
+        for (int length = 30; length < leaves; ) {
+            boolean isByTwo = length + 2 <= leaves;
+            table.say(isByTwo ? 0 : 1);
+            length += isByTwo ? 2 : 1;
+        }
+        return table;
+    }
+
     void fault(String text, int want) {
         due("fault() of \"" + text + "\"", written(text).fault(), want);
     }

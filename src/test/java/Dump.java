@@ -5,11 +5,28 @@ import java.util.function.ToLongFunction;
 
 /** All that calls can tell of an object, row of acts, slots and text as well; the object is used up by it. */
 final class Dump {
+    static final long SOME_SEED = 12345;
+
     private final LeafTable table;
     private final List<Long> answers = new ArrayList<>();
 
     private Dump(LeafTable table) {
         this.table = table;
+    }
+
+    /** Of everything something: acts, both slots, dinners, a seed, and another text than the one that was laid. */
+    static LeafTable someTable() {
+        LeafTable table = Check.laid("T1292G02021G03102G05033G08210G11123");
+        table.dine(1010, 3);
+        table.dine(100, -1);
+        table.seed(SOME_SEED);
+        table.keep(1);
+        table.pass(0);
+        table.say(0);
+        table.keep(0);
+        table.say(3);
+        Check.write(table, "T1193G02000");
+        return table;
     }
 
     static List<Long> of(LeafTable table) {
@@ -65,8 +82,8 @@ final class Dump {
     }
 
     private void undoAll() {
-        for (int left = table.undo(); left >= 0; left = table.undo()) {
-            add(left);
+        for (int i = 0; i < 15; i++) {
+            add(table.undo());
             lookAtSeats();
         }
     }

@@ -25,6 +25,7 @@ public final class FaceTest {
     public static void main(String[] args) throws IOException {
         face();
         members(LeafTable.class);
+        noNameOfTheFace(LeafTable.class);
         for (Class<?> inside : LeafTable.class.getDeclaredClasses()) {
             CHECK.due(inside + " is static", Modifier.isStatic(inside.getModifiers()) ? 1 : 0, 1);
             members(inside);
@@ -76,7 +77,9 @@ public final class FaceTest {
     private static void noNameOfTheFace(Class<?> inside) {
         for (Method method : inside.getDeclaredMethods()) {
             for (String told : FACE) {
-                boolean isNamedSo = told.substring(told.indexOf(' ') + 1, told.indexOf('(')).equals(method.getName());
+                boolean isFace = inside == LeafTable.class && Modifier.isPublic(method.getModifiers());
+                String name = told.substring(told.indexOf(' ') + 1, told.indexOf('('));
+                boolean isNamedSo = !isFace && name.equals(method.getName());
                 CHECK.due(method + " is named as one of the face", isNamedSo ? 1 : 0, 0);
             }
         }

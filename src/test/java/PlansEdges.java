@@ -75,22 +75,8 @@ final class PlansEdges {
 
     // ---- nothing is changed
 
-    private static LeafTable someTable() {
-        LeafTable table = Check.laid("T1292G02021G03102G05033G08210G11123");
-        table.dine(1010, 3);
-        table.dine(100, -1);
-        table.seed(12345);
-        table.keep(1);
-        table.pass(0);
-        table.say(0);
-        table.keep(0);
-        table.say(3);
-        Check.write(table, "T1193G02000");
-        return table;
-    }
-
     private void asked(String call, ToLongFunction<LeafTable> made) {
-        Dump.unchanged(check, call, PlansEdges::someTable, made, made.applyAsLong(someTable()));
+        Dump.unchanged(check, call, Dump::someTable, made, made.applyAsLong(Dump.someTable()));
     }
 
     private void nothingIsChanged() {
@@ -126,7 +112,7 @@ final class PlansEdges {
         most(table, 2, 2);
         table.pass(1);
         most(table, 2, 0);
-        LeafTable cold = Check.laid("T0991G08000G07040");
+        LeafTable cold = Check.laid("T0991G08000G07010");
         cold.pass(0);
         most(cold, 1, 0);
     }
@@ -176,13 +162,9 @@ final class PlansEdges {
 
     // ---- sayings
 
-    /** 30 leaves and more: FLATTERING (0), BUSY (1), STAYING (2). */
+    /** So many leaves; FLATTERING (0), BUSY (1), STAYING (2). */
     private static LeafTable longOf(int leaves) {
-        LeafTable table = Check.laid("T3091G00200G01000G02100");
-        for (int length = 30; length < leaves; ) {
-            length = table.say(length + 2 <= leaves ? 0 : 1);
-        }
-        return table;
+        return Check.lengthened("T3091G00200G01000G02100", leaves);
     }
 
     private void fewestToBeLong() {

@@ -395,13 +395,15 @@ final class TextEdges {
     }
 
     private void servedOrNot() {
-        LeafTable table = Check.laid("T0951G02030G03030");
-        check.due("not yet", table.guest(0, 4), 0);
-        table.pass(0);
-        check.due("just warm enough", table.guest(0, 4), 1);
+        LeafTable table = Check.laid("T0951G03030G02030G04000");
+        check.due("not yet", table.guest(1, 4), 0);
         table.pass(1);
-        check.due("one too cold", table.guest(1, 4), 0);
-        check.due("the first still is", table.guest(0, 4), 1);
+        check.due("just warm enough", table.guest(1, 4), 1);
+        table.pass(0);
+        check.due("one too cold", table.guest(0, 4), 0);
+        check.due("the first still is", table.guest(1, 4), 1);
+        table.pass(2);
+        check.due("1 for the third, too", table.guest(2, 4), 1);
     }
 
     private void hearsOrNot() {
